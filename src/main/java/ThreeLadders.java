@@ -1055,6 +1055,8 @@ public final class ThreeLadders {
         private static final int FIRST_BIT = 64;
         private static final int BACK_BIT = 128;
         private static final int ALL_BACK_BITS = BACK_BIT | (BACK_BIT << 8) | (BACK_BIT << 16);
+        /** Behind every fire. */
+        private static final int NEVER = 1000;
 
         private final Front front;
         private final int[] place = new int[MOST_BRIGADES];
@@ -1154,44 +1156,56 @@ public final class ThreeLadders {
                 left[w] = front.windows[w][CHILDREN];
                 firstAt[w] = NONE;
             }
-            for (int b = 0; b < front.brigadeCount; b++) {
+            for (int b = 0; b < MOST_BRIGADES; b++) {
                 saved[b] = 0;
+                next[b] = NEVER;
                 if (window[b] != NONE) {
                     int[] brigade = front.brigades[b];
                     climb[b] = brigade[PACE] * front.windows[window[b]][HEIGHT] * (shake[b] + 1);
-                    next[b] = brigade[ARRIVES] + 1 + climb[b];
+                    next[b] = inTime(window[b], brigade[ARRIVES] + 1 + climb[b]);
                 }
             }
         }
 
-        /** Whose visit is the next that takes a child down; one who finds none will never find one again. */
+        private int inTime(int w, int minute) {
+            return left[w] > 0 && minute < front.windows[w][FIRE] ? minute : NEVER;
+        }
+
+        /** Whose visit is the next that takes a child down. */
         private int nextToSave() {
-            int found = NONE;
-            for (int b = 0; b < front.brigadeCount; b++) {
-                int w = window[b];
-                if (w != NONE && left[w] > 0 && next[b] < front.windows[w][FIRE]) {
-                    if (found == NONE || next[b] < next[found]) {
-                        found = b;
-                    }
+            int found = 0;
+            for (int b = 1; b < MOST_BRIGADES; b++) {
+                if (next[b] < next[found]) {
+                    found = b;
                 }
             }
-            return found;
+            return next[found] == NEVER ? NONE : found;
         }
 
         private void takeChild(int b) {
             int w = window[b];
-            if (taken < MOST_CHILDREN) {
-                takenMinute[taken] = next[b];
-                takenBy[taken] = b;
-                takenFrom[taken] = w;
-                taken++;
-            }
+            takenMinute[taken] = next[b];
+            takenBy[taken] = b;
+            takenFrom[taken] = w;
+            taken++;
             if (firstAt[w] == NONE) {
                 firstAt[w] = b;
             }
             saved[b]++;
             left[w]--;
-            next[b] += 2 * climb[b];
+            next[b] = inTime(w, next[b] + 2 * climb[b]);
+            if (left[w] == 0) {
+                leaveEmpty(w);
+            }
+        }
+
+        /** Who finds no child will never find one again. */
+        private void leaveEmpty(int w) {
+            for (int b = 0; b < MOST_BRIGADES; b++) {
+                if (window[b] == w) {
+                    next[b] = NEVER;
+                }
+            }
         }
 
         /** All of a row that gains are reckoned from; brigades that there are not stand back. */
