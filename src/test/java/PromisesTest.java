@@ -63,6 +63,15 @@ public final class PromisesTest {
         Due.is("still 159", x.count(3), 159);
         Due.is("feed one to 159", x.feed(0x00000100, 0, 0, 0, 0), 160);
         Due.is("a byte of 255 is wrong", x.fault(0), 8);
+        for (int part = 0; part < 5; part++) {
+            x.end(157);
+            int[] f = new int[5];
+            f[part] = 0x20202020;
+            Due.is("four to 157, part " + part, x.feed(f[0], f[1], f[2], f[3], f[4]), NONE);
+            Due.is("still 157", x.count(3), 157);
+            x.end(156);
+            Due.is("four to 156, part " + part, x.feed(f[0], f[1], f[2], f[3], f[4]), 160);
+        }
     }
 
     private static void frontFaults() {
@@ -141,6 +150,9 @@ public final class PromisesTest {
         Due.ruleFault("y:!(!(!([d]=1)))?1", 8);
         Due.ruleFault("y:!!!!!!d=1&!!!!!!d=[1]?1", 20);
         Due.ruleFault("y:!d=1&[[[[[[1]]]]]]=1?1", NONE);
+        Due.ruleFault("y:" + "d+".repeat(78) + "dd", 159);
+        Due.ruleFault("y:" + "d+".repeat(79), 160);
+        Due.ruleFault("y:1;".repeat(39) + " y:1", NONE);
         ThreeLadders x = new ThreeLadders();
         Due.is("fault(-1)", x.fault(-1), -2);
         Due.is("fault(2)", x.fault(2), -2);
@@ -465,6 +477,8 @@ public final class PromisesTest {
         Due.is("the first clause that holds", chosenBy("y:1=1?0;y:5"), 99);
         Due.is("the next one", chosenBy("y:1=2?0;y:5"), 0);
         Due.is("none holds", chosenBy("y:1=2?5;y:1=3?6"), 99);
+        Due.is("all of 160 bytes are reckoned", chosenBy("y:" + "0+".repeat(78) + " 1"), 0);
+        Due.is("forty clauses", chosenBy("y:1=2?1;".repeat(19) + " y : 1 "), 0);
         Due.is("below 0", chosenBy("y:1-2"), 99);
     }
 
