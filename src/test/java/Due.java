@@ -4,20 +4,37 @@ import java.util.NoSuchElementException;
 final class Due {
     private static int wrong = 0;
     private static int looked = 0;
+    /** The words of the document by which answers are due just now. */
+    private static String by = "";
 
     private Due() {
+    }
+
+    static void by(String words) {
+        by = words;
+    }
+
+    static int looked() {
+        return looked;
     }
 
     static void is(String call, long got, long want) {
         looked++;
         if (got != want) {
             wrong++;
-            System.out.println(call + " answered " + got + ", due is " + want);
+            System.out.println((by.isEmpty() ? "" : by + ": ") + call + " answered " + got + ", due is " + want);
         }
     }
 
     static void is(String call, boolean got, boolean want) {
         is(call, got ? 1 : 0, want ? 1 : 0);
+    }
+
+    static void is(String call, int[] got, int[] want) {
+        is(call + ", how many", got.length, want.length);
+        for (int i = 0; i < Math.min(got.length, want.length); i++) {
+            is(call + ", number " + i, got[i], want[i]);
+        }
     }
 
     static void noSuchBrigade(ThreeLadders x, int brigade, int what) {
