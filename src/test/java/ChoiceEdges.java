@@ -105,6 +105,25 @@ final class ChoiceEdges {
         }
     }
 
+    /** Rests by the words of the document: of each row, whether somebody's best is more than what it has. */
+    private static void lookedFor(String front) {
+        int rows = Due.front(front).explain(NONE);
+        int found = 0;
+        for (int i = 0; i < rows; i++) {
+            ThreeLadders x = Due.front(front);
+            int row = x.explain(i);
+            boolean rests = true;
+            for (int b = 0; b < x.count(0); b++) {
+                rests &= x.told(row, b, 1) == x.best(row, b, 1);
+            }
+            if (rests) {
+                Due.is("rest of '" + front + "'", x.rests(found), row);
+                found++;
+            }
+        }
+        Due.is("rests of '" + front + "'", Due.front(front).rests(NONE), found);
+    }
+
     private void rests() {
         doc.says(0, "rows of PUTS by which none has more by another PUT alone: how many, the i-th (rising)");
         ThreeLadders x = Due.front("wh1;bn1");
@@ -121,6 +140,10 @@ final class ChoiceEdges {
         restsAre(Due.front("wh9;bn1;bn1;bn1"), 999999);
         // 1 comes too late for the child: it does not matter what it does
         restsAre(Due.front("wh1;bn1;ba1n2"), 0, 10, 99);
+        lookedFor("wx2h1c2f9;wx3h1c1f9;bn2;bn1;ba1n1;lk3s2");
+        lookedFor("wx2h1c2f9;wx3h1c1f9;bn2;bn1;ba1n1;lk3s2q1");
+        lookedFor("wx2h1c2f9;wx3h1c1f9;bn2;bn1;ba1n1;lk3s2q2");
+        lookedFor("wx1h1c3f9;wx4h2c2f12;bn2;ba1n2p2;lk30s9q1");
         doc.says(16, "RESTS: how many (i NONE), the i-th.");
         restsAre(Due.front("wh1;bn1;bn1"), 0, 99);
         doc.says(16, "NONE: no such one");
@@ -185,6 +208,7 @@ final class ChoiceEdges {
     private void laws() {
         doc.says(0, "has the REST in which most are SAVED (of several the lowest; one without RESTS left out); how many");
         lawsAre(Due.front("wh1;b"), 0, 1);
+        lawsAre(Due.front("wh1;bn1"), 0, 1);
         lawsAre(Due.front("wc0;b"), 0, 0);
         lawsAre(Due.front("wh1;b;ls99q2"), 0, 0);
         // three by 0, four by 1 and by 2
@@ -223,6 +247,7 @@ final class ChoiceEdges {
         doc.says(0, "the least pay for STANDING back (0 .. 99) with which there is a REST "
                 + "in which as many are SAVED as in MOST");
         Due.is("none is needed", Due.front("wh1;b").bribe(), 0);
+        Due.is("none is needed", Due.front("wh1;bn1").bribe(), 0);
         Due.is("none is needed, whatever is paid", Due.front("wh1;b;ls99").bribe(), 0);
         Due.is("nothing to be saved", Due.front("wc0;b").bribe(), 0);
         // one of the two has to be paid what the child is worth to it
@@ -238,6 +263,13 @@ final class ChoiceEdges {
         Due.is("one less is too little", x.rests(NONE), 0);
         x.change(1, 20);
         Due.is("so much is enough", x.rests(NONE) > 0 && x.bribe() == 20, true);
+        x.change(0, 21);
+        Due.is("by the pay that is now", x.bribe(), 21);
+        x.image();
+        x.change(0, 5);
+        Due.is("by the pay that is now", x.bribe(), 5);
+        x.back();
+        Due.is("by the pay that is back", x.bribe(), 21);
         doc.says(20, "NONE: none");
         // two children are worth more than can be paid
         Due.is("too dear", Due.front("wx3h1c2f17;ba0n4p5;ba0n2p1;lp99").bribe(), NONE);
@@ -361,6 +393,11 @@ final class ChoiceEdges {
         Due.is("where both go", ruled(three, "y:1", "y:1", "y:o-1").choice(), 0);
         Due.is("both go to one", ruled(three, "y:1", "y:o", "y:2-o").choice(), 1);
         Due.is("who stands back goes nowhere", ruled(three, "y:0", "y:1-o").choice(), 990099);
+        for (int place = 0; place < 6; place++) {
+            for (int window = 0; window < 4; window++) {
+                aheadAt(place, window);
+            }
+        }
         doc.says(0, "k on how many of their PLACES these feet would be");
         Due.is("none ahead of 0", ruled(three, "y:1-k", "y:1", "y:1").choice(), 0);
         Due.is("not on that place", ruled(three, "y:1", "y:1-k").choice(), 1099);
@@ -368,6 +405,25 @@ final class ChoiceEdges {
         Due.is("on both their places", ruled(three, "y:1", "y:1", "y:k-1").choice(), 0);
         Due.is("to another window too", ruled(three, "y:1", "y:k*2-o").choice(), 199);
         Due.is("who stands back has no place", ruled(three, "y:0", "y:1-k").choice(), 990099);
+    }
+
+    /** The brigade ahead gets to one window from one place alone, the other one to all from everywhere. */
+    private static void aheadAt(int place, int window) {
+        StringBuilder windows = new StringBuilder();
+        for (int w = 0; w < 4; w++) {
+            windows.append("wx").append(place).append(w == window ? "h3;" : "h4;");
+        }
+        int put = 10 * place + window;
+        String front = windows + "bn3;bn12";
+        Due.is("o to " + put, ruled(front, "y:1", "y:o=1?1").choice(), put * 100 + window);
+        Due.is("not o to " + put, ruled(front, "y:1", "y:o=0?1").choice(), put * 100 + (window == 0 ? 1 : 0));
+        Due.is("k on " + put, ruled(front, "y:1", "y:k=1?1").choice(), put * 100 + 10 * place);
+        Due.is("not k on " + put, ruled(front, "y:1", "y:k=0?1").choice(), put * 100 + (place == 0 ? 10 : 0));
+        String third = front + ";bn12";
+        int both = put * 100 + put;
+        String same = "y:o*k";
+        Due.is("o of two", ruled(third, "y:1", same, "y:o=2?1").choice(), both * 100 + window);
+        Due.is("k of two", ruled(third, "y:1", same, "y:k=2?1").choice(), both * 100 + 10 * place);
     }
 
     private void ashes() {
@@ -428,6 +484,8 @@ final class ChoiceEdges {
         explained(marked(two, new int[] {1, 0, 1}), 0, 99, 9900);
         explained(marked(two, new int[] {1, 0, 0}), 9999);
         explained(marked(two, new int[] {1, 0, 2}));
+        // both save one at it
+        explained(marked("wx1h1c9f4;bn1;bn2", new int[] {1, 0, 2}), 1000, 1020);
         // the ladder that found no place is none that was put: nobody is at window 1
         String other = "wx2h1c2;wx2h1c1;bn1;bn1";
         explained(marked(other, new int[] {1, 1, 1}), 2120, 2121, 2199, 9921);
@@ -441,9 +499,20 @@ final class ChoiceEdges {
         explained(x, 51, 5100, 5151, 5199, 9951);
         x.ash(1, 0, 1);
         explained(x, 51, 5100);
+        ThreeLadders all = Due.front("wx0h1;wx2h1;wx3h1;wx5h1;bn12;bn12;bn12");
+        Due.is("all rows there can be", all.explain(NONE), 25 * 25 * 25);
+        Due.is("the least of them", all.explain(0), 0);
+        Due.is("the last but one", all.explain(25 * 25 * 25 - 2), 999953);
+        Due.is("the last of them", all.explain(25 * 25 * 25 - 1), 999999);
+        Due.is("the greatest front has rests, none of them behind the last row",
+                all.rests(NONE) > 0 && all.rests(all.rests(NONE) - 1) <= 999999, true);
         doc.says(23, "NONE: no such one");
+        Due.is("none behind them", all.explain(25 * 25 * 25), NONE);
+        x.image();
         x.ash(1, 0, 9);
         explained(x);
+        x.back();
+        explained(x, 51, 5100);
         doc.says(23, "no FRONT");
         Due.is("how many", new ThreeLadders().explain(NONE), NONE);
         Due.is("the first", new ThreeLadders().explain(0), NONE);
@@ -460,6 +529,14 @@ final class ChoiceEdges {
         explained(x, 201152);
         Due.is("in the one that is left", x.knocked(), 3);
         doc.says(24, "KNOCKED, as bits (no such row: 0).");
+        ThreeLadders first = marked("wx2h3c1f60;wx3h3c1f60;bn3;bn4",
+                new int[] {1, 0, 1}, new int[] {1, 1, 1}, new int[] {0, 4, 1}, new int[] {0, 2, 0});
+        Due.is("asked ahead of all else", first.knocked(), 3);
+        first.image();
+        first.ash(0, 0, 1);
+        Due.is("no such row", first.knocked(), 0);
+        first.back();
+        Due.is("such a row again", first.knocked(), 3);
         x.ash(0, 2, 0);
         explained(x);
         Due.is("no such row", x.knocked(), 0);

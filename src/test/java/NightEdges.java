@@ -1,5 +1,6 @@
 import java.math.BigInteger;
 import java.util.ArrayList;
+import java.util.Arrays;
 import java.util.List;
 import java.util.function.Consumer;
 
@@ -225,6 +226,14 @@ final class NightEdges {
         stands(y, 1, 1, 1, 10);
         Due.is("undo", y.undo(), 0);
         stands(y, 0, 0, 0, 0);
+        ThreeLadders fewer = Due.front("wh1c9f60;wx1h1c9f60;wx2h1c9f60;b;b;b");
+        fewer.night(1122);
+        Due.is("27 of three brigades", fewer.count(6), 27);
+        Due.tape(fewer, "wh1;bn1");
+        fewer.text(0);
+        fewer.night(0);
+        Due.is("undo", fewer.undo(), 0);
+        stands(fewer, 0, 0, 0, 0);
         ThreeLadders forty = small();
         forty.drawn(40, 3);
         for (int left = 39; left >= 0; left--) {
@@ -282,6 +291,7 @@ final class NightEdges {
             for (int what = 0; what < 4; what++) {
                 x.change(what, 2);
             }
+            Due.is("all is other than it was", Arrays.equals(whole(x), then), false);
             Due.is("back", x.back(), 2);
             Due.is("all is so again", whole(x), then);
         }

@@ -85,15 +85,9 @@ final class TextEdges {
     private void feedIsFull() {
         doc.says(2, "NONE: more than 160.");
         for (int i = 0; i < 20; i++) {
-            int[] one = new int[5];
-            one[i / 4] = '~' << (24 - 8 * (i % 4));
-            ThreeLadders x = blanks(160);
-            Due.is("160 and one", x.feed(one[0], one[1], one[2], one[3], one[4]), NONE);
-            Due.is("still 160", x.count(3), 160);
-            Due.is("still blanks", x.fault(0), 160);
-            ThreeLadders y = blanks(159);
-            Due.is("159 and one", y.feed(one[0], one[1], one[2], one[3], one[4]), 160);
-            Due.is("it came to the end", y.fault(0), 159);
+            for (int sign : new int[] {1, 2, 127, 128, 255}) {
+                oneMore(i, sign);
+            }
         }
         ThreeLadders z = blanks(160);
         Due.is("160 and nothing", z.feed(0, 0, 0, 0, 0), 160);
@@ -103,6 +97,18 @@ final class TextEdges {
             Due.is("none of them came", x.count(3) == n && x.fault(0) == n, true);
         }
         Due.is("140 and twenty", feed(blanks(140), "wwwwwwwwwwwwwwwwwwww"), 160);
+    }
+
+    private static void oneMore(int at, int sign) {
+        int[] one = new int[5];
+        one[at / 4] = sign << (24 - 8 * (at % 4));
+        ThreeLadders x = blanks(160);
+        Due.is("160 and one", x.feed(one[0], one[1], one[2], one[3], one[4]), NONE);
+        Due.is("still 160", x.count(3), 160);
+        Due.is("still blanks", x.fault(0), 160);
+        ThreeLadders y = blanks(159);
+        Due.is("159 and one", y.feed(one[0], one[1], one[2], one[3], one[4]), 160);
+        Due.is("it came to the end", y.fault(0), 159);
     }
 
     private void ends() {
@@ -437,11 +443,13 @@ final class TextEdges {
         Due.is("as a rule", x.fault(1), 4);
         Due.is("the tape is as it was", x.count(3), 5);
         doc.says(4, "NONE: none.");
-        Due.tape(x, "w;b");
+        Due.tape(x, "w;b;l");
         Due.is("as a front", x.fault(0), NONE);
+        Due.is("asked again", x.fault(0), NONE);
         Due.is("no front by that", x.count(0), 0);
         Due.tape(x, "y:1");
         Due.is("as a rule", x.fault(1), NONE);
+        Due.is("asked again", x.fault(1), NONE);
         Due.is("no rule by that", x.count(2), 0);
         doc.says(4, "-2: no such sort.");
         for (int sort : new int[] {-2, -1, 2, 3, Integer.MIN_VALUE, Integer.MAX_VALUE}) {
@@ -456,6 +464,7 @@ final class TextEdges {
         Due.is("one brigade", x.text(0), 1);
         Due.is("empty", x.count(3) == 0 && x.fault(0) == 0, true);
         doc.says(5, "(all that was of another one is gone but RULES)");
+        nothingIsLeft();
         Due.addRule(x, "y:c");
         x.rule(0, 0);
         x.change(1, 9);
@@ -484,6 +493,28 @@ final class TextEdges {
         Due.is("one window", x.window(1, 0), NONE);
         Due.is("a row of one brigade", x.all(0, 0), 1);
         Due.is("no row of three", x.all(999999, 0), HIDDEN);
+    }
+
+    /** All that is asked of one front is asked anew of the next one. */
+    private static void nothingIsLeft() {
+        String[] fronts = {"wx2h1c3f60;w;bn1;bn2;bn3;lp40s50k9q2", "wc0;b", "wh1;bn1;lp10s10", "wx3h1c1f11;ba0n4p2;ba0n2p1",
+            "wh1c2f9;bn1;bn1", "wx5h1c9f60;bn1;bn1;bn1;ls90"};
+        ThreeLadders x = new ThreeLadders();
+        for (String front : fronts) {
+            Due.tape(x, front);
+            x.text(0);
+            ThreeLadders y = Due.front(front);
+            Due.is("all of '" + front + "'", asked(x), asked(y));
+        }
+    }
+
+    private static int[] asked(ThreeLadders x) {
+        x.night(x.count(0) == 1 ? 99 : x.count(0) == 2 ? 9999 : 999999);
+        x.drawn(2, 5);
+        int undone = x.undo() * 10 + x.undo();
+        return new int[] {undone, x.count(6), x.brigade(0, 4), x.brigade(0, 5), x.rests(NONE), x.rests(0), x.most(0),
+            x.most(1), x.loss(), x.laws(0), x.laws(1), x.bribe(), x.explain(NONE), x.explain(3), x.knocked(),
+            x.ash(0, 0, 1), x.explain(NONE), x.knocked(), x.choice(), x.undo(), x.undo(), x.back()};
     }
 
     private void rulesTaken() {
