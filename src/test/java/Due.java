@@ -1,3 +1,4 @@
+import java.nio.file.Path;
 import java.util.NoSuchElementException;
 
 /** What tests say of answers: each that is not the one that is due is printed and counted. */
@@ -12,6 +13,12 @@ final class Due {
 
     static void by(String words) {
         by = words;
+    }
+
+    /** The project's folder, by the path of the class's source that a test is given. */
+    static Path project(String[] args) {
+        Path source = Path.of(args.length > 0 ? args[0] : "src/main/java/ThreeLadders.java").toAbsolutePath();
+        return source.getParent().resolve("../../..").normalize();
     }
 
     static int looked() {
